@@ -18,6 +18,8 @@ final class PromisesTest {
         trees();
         filters();
         changes();
+        theTreeFollowsTheImage();
+        theLargestImage();
         Check.end();
     }
 
@@ -387,6 +389,9 @@ final class PromisesTest {
         Check.same("18: with one leaf", steps.count(3), 1);
         Check.same("18: all levels", steps.count(5), 16);
         Check.same("18: their sum", steps.count(6), 120);
+        ComponentTree high = treeOf("75/57");
+        Check.same("18: two levels above 0", high.count(5), 2);
+        Check.same("18: the sum of all of them", high.count(6), 24);
         ComponentTree flat = treeOf("777/777");
         Check.same("18: one node", flat.count(2), 1);
         Check.same("18: the root is the leaf", flat.count(3), 1);
@@ -544,6 +549,10 @@ final class PromisesTest {
         Check.same("25: the 3 over 0", equal.prominence(2), 3);
         Check.same("24: equal prominences by the numbers", equal.leaf(1), 2);
         Check.same("24: and the higher number behind it", equal.leaf(2), 3);
+        ComponentTree hidden = treeOf("03024");
+        Check.same("25: the 4 over all", hidden.prominence(3), 5);
+        Check.same("25: the 3 below it", hidden.prominence(2), 3);
+        Check.same("20: the prominence of the part with the 4", hidden.attribute(1, 11), 5);
         ComponentTree flat = treeOf("FF");
         Check.same("25: a root that is a leaf", flat.prominence(0), 16);
     }
@@ -574,6 +583,7 @@ final class PromisesTest {
         Check.same("27: meet(8, 2)", tree.meet(8, 2), 1);
         Check.same("27: meet(0, 14)", tree.meet(0, 14), 0);
         Check.same("27: meet(0, 0)", tree.meet(0, 0), 3);
+        Check.same("27: meet(14, 14)", tree.meet(14, 14), 6);
         Check.badIndex("27: meet(15, 0)", () -> tree.meet(15, 0));
         Check.badIndex("27: meet(0, 15)", () -> tree.meet(0, 15));
         Check.badIndex("27: meet(-1, 0)", () -> tree.meet(-1, 0));
@@ -887,6 +897,71 @@ final class PromisesTest {
         dark.setDark(true);
         Check.same("37: of a dark tree", dark.ifLevel(1, 3, 3), 1);
         Check.same("37: of a dark tree, two peaks", dark.ifLevel(1, 7, 3), 2);
+    }
+
+    /** The same object gets image after image, and is asked for its tree between them. */
+    private static void theTreeFollowsTheImage() {
+        ComponentTree tree = treeOf("01234567/FEDCBA98");
+        Check.same("18: the long way", tree.count(4), 16);
+        tree.begin(3, 2);
+        Check.same("2: one node", tree.count(2), 1);
+        Check.same("2: a way of one node", tree.count(4), 1);
+        Check.same("2: the leaf is the root", tree.leaf(0), 0);
+        attributesAre("2", tree, 0, 0, 6, 6, -1, 0, 0, 0, 3, 2, 10, 0, 1);
+        tree.fill(1, 4, 5);
+        Check.same("4: the tree follows", tree.nodeOf(4), 1);
+        attributesAre("4", tree, 1, 5, 2, 2, 0, 0, 0, 0, 1, 2, 6, 0, 6);
+        type(tree, "7/5/7/6");
+        tree.load();
+        Check.same("17: the tree follows", tree.attribute(0, 0), 5);
+        Check.same("17: filtered at once", tree.filtered(3, 1, 2, 3), 6);
+        tree.undo();
+        Check.same("13: the tree follows", tree.attribute(0, 1), 6);
+        tree.undo();
+        Check.same("13: and once more", tree.count(2), 1);
+        tree.undo();
+        Check.same("13: back to the long way", tree.ifLevel(0, 0, 4), 16);
+        Check.same("36: which filtered just before", tree.verdict(15, 1, 1, 0), 3);
+        Check.same("36: keepPeaks(0)", tree.keepPeaks(0), 15);
+        Check.same("36: the tree follows", tree.count(2), 1);
+        tree.undo();
+        tree.filter(1, 10, 1);
+        Check.same("32: the tree follows", tree.count(2), 7);
+        tree.suppress(3);
+        Check.same("35: the tree follows", tree.count(2), 4);
+        tree.reconstruct();
+        Check.same("34: the tree follows", tree.count(2), 1);
+        ComponentTree high = treeOf("57/75");
+        Check.same("30: filtered at once, by the rule 3", high.filtered(1, 1, 999, 3), 5);
+        Check.same("30: filtered at once, of another one", treeOf("57/75").filtered(2, 1, 1, 2), 7);
+    }
+
+    private static void theLargestImage() {
+        String rows = "12121212/21212121/12121212/21212121/12121212/21212121/12121212/2121212F";
+        ComponentTree tree = treeOf(rows);
+        Check.same("18: count(5)", tree.count(5), 3);
+        Check.same("18: count(6)", tree.count(6), 96 + 14);
+        // The root, thirty twos that stand alone, the F with the two beside it, and the F alone.
+        Check.same("18: count(2)", tree.count(2), 33);
+        Check.same("10: difference()", tree.difference(), 96 + 14);
+        Check.same("35: suppress(1)", tree.suppress(1), 31);
+        Check.same("35: the last pixel", tree.level(63), 14);
+        Check.same("35: another pixel", tree.level(0), 1);
+        tree.undo();
+        Check.same("7: markAll()", tree.markAll(), 64);
+        Check.same("34: reconstruct()", tree.reconstruct(), 0);
+        Check.same("32: filter(1, 2, 0)", tree.filter(1, 2, 0), 31);
+        Check.same("4: fill(63, 0, 1)", tree.fill(63, 0, 1), 3);
+        tree.setEight(true);
+        Check.same("5: complement()", tree.complement(), 1);
+        Check.same("5: the last pixel", tree.level(63), 14);
+        // All pixels but a spiral are 0: the flood goes its whole way.
+        ComponentTree spiral = treeOf("55555555/00000005/55555505/50000505/50550505/50555505/50000005/55555555");
+        Check.same("19: one way", spiral.count(2), 2);
+        Check.same("19: its end", spiral.nodeOf(34), 1);
+        ComponentTree cup = treeOf("505/505/555");
+        Check.same("19: down and up again", cup.nodeOf(2), 1);
+        Check.same("19: one node", cup.count(2), 2);
     }
 
     private static long hash(long... values) {
