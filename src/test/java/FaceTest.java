@@ -65,13 +65,9 @@ final class FaceTest {
         Constructor<?>[] constructors = ComponentTree.class.getDeclaredConstructors();
         Check.same("constructors", constructors.length, 1);
         Check.same("public constructors", ComponentTree.class.getConstructors().length, 1);
-        TreeSet<String> publicNames = new TreeSet<>();
-        for (Method method : ComponentTree.class.getMethods()) {
-            publicNames.add(method.getName());
-        }
         for (Method method : ComponentTree.class.getDeclaredMethods()) {
             if (Modifier.isPrivate(method.getModifiers())) {
-                Check.same("a public name of " + method.getName(), publicNames.contains(method.getName()), false);
+                Check.same(method + " has a name of its own", publicNames().contains(method.getName()), false);
             }
         }
         for (Field field : ComponentTree.class.getDeclaredFields()) {
@@ -82,6 +78,14 @@ final class FaceTest {
                 Check.same(field.getName() + " is final", Modifier.isFinal(modifiers), true);
             }
         }
+    }
+
+    private static TreeSet<String> publicNames() {
+        TreeSet<String> names = new TreeSet<>();
+        for (Method method : ComponentTree.class.getMethods()) {
+            names.add(method.getName());
+        }
+        return names;
     }
 
     private static void nestedClasses() {
@@ -97,6 +101,7 @@ final class FaceTest {
             }
             for (Method method : one.getDeclaredMethods()) {
                 Check.same(method + " has few parameters", method.getParameterCount() <= 7, true);
+                Check.same(method + " has a name of its own", publicNames().contains(method.getName()), false);
             }
         }
     }
