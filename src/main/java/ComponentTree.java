@@ -1042,8 +1042,9 @@ public final class ComponentTree {
         }
 
         void keepLeaves(Nodes nodes, int[] leaves, int many) {
-            Arrays.fill(remains, false);
-            remains[0] = true;
+            for (int node = 0; node < nodes.many; node++) {
+                remains[node] = node == 0;
+            }
             for (int index = 0; index < many; index++) {
                 remains[leaves[index]] = true;
             }

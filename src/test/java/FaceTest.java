@@ -124,6 +124,10 @@ final class FaceTest {
         for (String word : forbidden) {
             Check.same("the word " + word, Pattern.compile(word).matcher(code).find(), false);
         }
+        Matcher flags = Pattern.compile("boolean\\[\\] (\\w+)").matcher(code);
+        while (flags.find()) {
+            Check.same("Arrays.fill over numbers alone", code.contains("fill(" + flags.group(1) + ","), false);
+        }
         Matcher throwing = Pattern.compile("throw (.*?)\\(").matcher(code);
         int throwers = 0;
         while (throwing.find()) {
