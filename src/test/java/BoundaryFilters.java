@@ -19,6 +19,7 @@ final class BoundaryFilters {
         filterIsAStep();
         threshold();
         thresholdAtTheBound();
+        eachThreshold();
     }
 
     private static void verdict() {
@@ -300,6 +301,28 @@ final class BoundaryFilters {
         Bounds.same("just that, so the node below it must go", greatVolume().threshold(6, 784), 785);
         Bounds.same("the greatest loss but one", greatVolume().threshold(6, 846), 785);
         Bounds.same("the greatest loss", greatVolume().threshold(6, 847), ComponentTree.NONE);
+    }
+
+    /** Without the nodes above the node 1 just its volume is lost, and with it 63 more. */
+    private static void eachThreshold() {
+        for (int volume = 1; volume <= 62 * 14; volume++) {
+            ComponentTree tree = ofVolume(volume);
+            Bounds.same("the bound " + volume, tree.threshold(6, volume), volume + 1);
+            Bounds.same("one less than all", tree.threshold(6, volume + 62), volume + 1);
+            Bounds.same("all", tree.threshold(6, volume + 63), ComponentTree.NONE);
+        }
+    }
+
+    /** The last pixel has the rank 0; all others are a node of the rank 1 with the given volume. */
+    private static ComponentTree ofVolume(int volume) {
+        StringBuilder text = new StringBuilder();
+        int rest = volume;
+        for (int pixel = 0; pixel < 63; pixel++) {
+            int rise = Math.min(14, rest);
+            rest -= rise;
+            text.append(pixel > 0 && pixel % 8 == 0 ? "/" : "").append("123456789ABCDEF".charAt(rise));
+        }
+        return Bounds.treeOf(text.append('0').toString());
     }
 
     /** A leaf of 56 pixels of the rank 15 on a node of 63 pixels of the rank 1: its volume is 56 * 14. */

@@ -530,6 +530,11 @@ final class BoundaryTree {
         Bounds.refuses(tree, "behind setEight", Bounds.INDEX, same -> same.attribute(2, 0));
         Bounds.same("meet(2, 2) behind setEight", tree.meet(2, 2), 1);
         Bounds.same("distance(0, 1) behind setEight", tree.distance(0, 1), 1);
+        ComponentTree less = Bounds.treeOf("0122");
+        Bounds.same("distance(0, 2)", less.distance(0, 2), 2);
+        Bounds.type(less, "0002");
+        less.load();
+        Bounds.same("distance(0, 1) behind load", less.distance(0, 1), 1);
         tree.setEight(false);
         Bounds.same("behind setEight(false)", tree.attribute(32, 0), 15);
         tree.setLevel(63, 0);
