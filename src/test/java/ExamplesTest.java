@@ -1,14 +1,62 @@
-/** The four examples that stand under 'Terms' in the document. */
+import java.io.IOException;
+import java.nio.file.Files;
+import java.nio.file.Path;
+import java.util.ArrayList;
+import java.util.List;
+import java.util.regex.Matcher;
+import java.util.regex.Pattern;
+
+/**
+ * The four examples that stand under 'Terms' in the document: as they are read from it, and written
+ * out once more, so that a fault in the reading shows.
+ */
 final class ExamplesTest {
+    private static final Path DOCUMENT = Path.of("../shared/DOC.md");
+    private static final int[] CALLS_OF_EXAMPLES = {14, 9, 13, 9};
+
     private ExamplesTest() {
     }
 
-    public static void main(String[] args) {
+    public static void main(String[] args) throws IOException {
+        asWritten();
         twoPeaks();
         incompleteText();
         equalPeaks();
         oneMarker();
         Check.end();
+    }
+
+    private static void asWritten() throws IOException {
+        List<String> examples = examples();
+        Check.same("the document's examples", examples.size(), CALLS_OF_EXAMPLES.length);
+        for (int index = 0; index < examples.size(); index++) {
+            int calls = runExample("example " + (index + 1), examples.get(index));
+            Check.same("calls of example " + (index + 1), calls, CALLS_OF_EXAMPLES[index]);
+        }
+    }
+
+    /** The numbered lines between the headings 'Terms' and 'Promise 1'. */
+    private static List<String> examples() throws IOException {
+        List<String> examples = new ArrayList<>();
+        boolean inTerms = false;
+        for (String line : Files.readAllLines(DOCUMENT)) {
+            inTerms = line.startsWith("## ") ? line.equals("## Terms") : inTerms;
+            if (inTerms && line.startsWith((examples.size() + 1) + ". ")) {
+                examples.add(line);
+            }
+        }
+        return examples;
+    }
+
+    private static int runExample(String name, String example) {
+        WrittenCalls calls = new WrittenCalls();
+        Matcher step = Pattern.compile("(\\w+\\([^()]*\\)) = (throws \\w+|-?\\d+)[;.]").matcher(example);
+        int many = 0;
+        while (step.find()) {
+            Check.same(name + ": " + step.group(1), calls.answer(step.group(1)), step.group(2));
+            many++;
+        }
+        return many;
     }
 
     private static void twoPeaks() {
